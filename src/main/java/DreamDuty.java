@@ -25,6 +25,8 @@ public final class DreamDuty {
     private static final int MOST_POOR = 100;
     private static final int SLOTS = 3;
     private static final int HUNDRED = 100;
+    // Each thing has a hundred units, twice or not.
+    private static final int DREAMS_OF_A_THING = 200;
 
     private final int[] tape = new int[MOST_BYTES];
     private int tapeLength;
@@ -546,15 +548,15 @@ public final class DreamDuty {
     }
 
     private static int dreamOf(int thing, int units, int twice) {
-        return (thing * 100 + units) * 2 + twice;
+        return thing * DREAMS_OF_A_THING + units * 2 + twice;
     }
 
     private static int thingOf(int dream) {
-        return dream == NOTHING ? NOTHING : dream / 200;
+        return dream == NOTHING ? NOTHING : dream / DREAMS_OF_A_THING;
     }
 
     private static int unitsOf(int dream) {
-        return dream == NOTHING ? NOTHING : dream / 2 % 100;
+        return dream == NOTHING ? NOTHING : dream % DREAMS_OF_A_THING / 2;
     }
 
     private static int twiceOf(int dream) {
@@ -1599,7 +1601,8 @@ public final class DreamDuty {
         private int alike(int guest, int thing) {
             int count = 0;
             for (int other = 0; other < text.guests; other++) {
-                if (other != guest && state.dream[other] != NOTHING && thingOf(state.dream[other]) == thing) {
+                int dream = state.dream[other];
+                if (other != guest && dream != NOTHING && dream / DREAMS_OF_A_THING == thing) {
                     count++;
                 }
             }
