@@ -872,14 +872,10 @@ public final class DreamDuty {
         static final int IF = 211;
         static final int THEN = 212;
         static final int ELSE = 213;
+        // The variables, in the order in which a border looks them up.
         static final int NIGHT = 214;
         static final int TARIFF = 215;
         static final int UNITS = 216;
-        static final int CHEESE = 217;
-        static final int DEGREE = 218;
-        static final int HONEST = 219;
-        static final int WHICH = 220;
-        static final int TWICE = 221;
         static final int ALIKE = 222;
 
         private static final String WORDS = "thing inn gives guest twins post much owes shows fine seed if then else night tariff units cheese degree honest which twice alike ";

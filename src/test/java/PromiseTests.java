@@ -169,6 +169,9 @@ public final class PromiseTests {
     private static void p9() {
         DreamDuty x = of(BORDER);
         due("p9 nowhere already", x.lodge(0, -1), false);
+        DreamDuty y = of("inn i 0 1 0;guest g 1 1 1;guest h 1 1 1;");
+        due("p9 the only bed", y.lodge(1, 0), true);
+        due("p9 no bed in the first inn", y.lodge(0, 0), false);
         due("p9", x.lodge(0, 1), true);
         due("p9 so already", x.lodge(0, 1), false);
         due("p9 no bed", x.lodge(1, 1), false);
@@ -324,6 +327,18 @@ public final class PromiseTests {
         due("p11 lots", x.morning(), 7);
         for (int g = 0; g < 3; g++) due("p11 declared", x.guest(g, 6), 1);
         due("p11 all", x.count(5), 13);
+        x.nights(1);
+        // lots 11, 61, 60, then 41, 48, 43: the first declares, the others are seen
+        due("p11 lots", x.morning(), 4 + 2 * 3 + 2 * 4);
+        x.nights(1);
+        // lots 76, 56, 67, then 22, 83, 54: the first is seen, the others slip by
+        due("p11 lots", x.morning(), 2 * 4);
+        int[] declared = {2, 1, 1};
+        int[] seen = {1, 2, 1};
+        for (int g = 0; g < 3; g++) {
+            due("p11 declared", x.guest(g, 6), declared[g]);
+            due("p11 seen", x.guest(g, 7), seen[g]);
+        }
         // a lot that is the honesty itself does not declare: 85 of the third on the first morning
         for (int honest = 84; honest < 88; honest++) {
             x = of(LOTS.replace("guest z 100 50", "guest z 100 " + honest));
@@ -453,6 +468,23 @@ public final class PromiseTests {
         }
         due("p14 none", x.undo(), false);
         due("p14 night", x.count(4), 5);
+        // what is on deposit comes back as it was
+        DreamDuty y = of("thing a 1;inn i 0 2 0;guest g 1 1 1;much=night+10;");
+        y.lodge(0, 0);
+        y.nights(1);
+        y.deposit(0, false);
+        y.hold(0);
+        y.deposit(0, true);
+        y.nights(1);
+        y.deposit(0, false);
+        for (int n = 0; n < 3; n++) y.undo();
+        y.deposit(0, true);
+        due("p14 deposit as it was", y.guest(0, 3), 10);
+        y.nights(1);
+        y.deposit(0, false);
+        y.restore(0);
+        y.deposit(0, true);
+        due("p32 deposit as it was", y.guest(0, 3), 10);
         // what is told and held is not undone
         x.lodge(0, 0);
         x.tell(0);
@@ -687,6 +719,16 @@ public final class PromiseTests {
         due("p20 one swap", z.swaps(1), 1);
         due("p20 first", z.swaps(2), 12);
         due("p20 nothing happens", z.guest(1, 2), 0);
+        // each once, at most: three in a ring would owe nothing
+        DreamDuty r = of("thing a 1;thing b 1;thing c 1;inn i 0 1 0;inn j 0 1 0;inn k 0 1 0;gives i a 0;gives i c 0;gives j a 0;gives j b 0;"
+                + "gives k b 0;gives k c 0;guest g 1 1 0;guest h 1 1 1;guest l 1 1 2;"
+                + "owes=(which-degree)*(which-degree);");
+        for (int g = 0; g < 3; g++) r.lodge(g, g);
+        r.nights(1);
+        due("p20 ring now", r.guest(0, 4) + r.guest(1, 4) + r.guest(2, 4), 6);
+        due("p20 ring", r.swaps(0), 2);
+        due("p20 ring", r.swaps(1), 1);
+        due("p20 ring", r.swaps(2), 2);
         // twins are weighed as one
         DreamDuty t = of(five + "twins k l;");
         for (int g = 0; g < 4; g++) t.lodge(g, g / 2);

@@ -307,6 +307,49 @@ public final class TextTests {
         Check.put(x, "");
         Check.due("read", x.read(), 0);
         Check.due("count(2)", x.count(2), 0);
+        nothingStaysOfFormerTexts();
+    }
+
+    // What is told in one text, or half told in one with a fault, is not told in the next ones.
+    private static void nothingStaysOfFormerTexts() {
+        DreamDuty x = new DreamDuty();
+        String plain = "thing a 2;thing b 4;inn i 0 1 1;guest g 1 1 1;guest h 1 1 1;post p;";
+        for (int i = 0; i < 6; i++) {
+            Check.put(x, plain);
+            Check.due("read", x.read(), 0);
+            Check.due("owes", x.owes(0, 1, 3), 12);
+            Check.due("gives", x.gives(0, 0), 1);
+            Check.due("posts", x.count(3), 1);
+            x.lodge(0, 0);
+            Check.due("posts", x.posts(0), -2);
+            int[] dreamt = new int[12];
+            for (int night = 0; night < 12; night++) {
+                x.nights(1);
+                dreamt[night] = x.guest(0, 2);
+                Check.due("much", x.guest(0, 3), 1);
+                Check.due("shows", x.shows(0), 50);
+            }
+            DreamDuty y = Check.of(plain);
+            y.lodge(0, 0);
+            for (int night = 0; night < 12; night++) {
+                y.nights(1);
+                Check.due("seed", dreamt[night], y.guest(0, 2));
+            }
+            Check.put(x, "thing a 2;inn j 1 1 1;inn i 1 1 1;gives j a 0;guest h 1 0 1;guest g 1 0 1;twins g h;post q i j;"
+                    + "much=7;owes=3;shows=100;seed " + (55 + i) + ";fine 5;");
+            Check.due("read", x.read(), 0);
+            x.lodge(0, 1);
+            x.lodge(1, 0);
+            x.nights(1);
+            x.morning();
+            Check.due("seen", x.guest(0, 7), 1);
+            Check.put(x, "owes=1+2*((3-4*(5-;");
+            Check.due("read", x.read(), 1);
+        }
+        Check.put(x, plain + "twins g h;owes=(1+2)*3;");
+        Check.due("read", x.read(), 0);
+        Check.due("owes", x.owes(0, 0, 1), 9);
+        Check.due("seen", x.guest(0, 7), 0);
     }
 
     private static void defaults() {
