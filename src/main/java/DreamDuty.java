@@ -637,7 +637,7 @@ public final class DreamDuty {
                     int left = stack[top];
                     int right = stack[top + 1];
                     if (step == UNLESS_LESS) {
-                        at = left < right ? at + 1 : goalOf(at);
+                        at = Math.max(at + 1, left < right ? 0 : goalOf(at));
                     } else {
                         stack[top] = worked(step, left, right);
                         top++;
@@ -649,7 +649,7 @@ public final class DreamDuty {
 
         // One less than the goal, as the loop itself goes one on.
         private int goalOf(int jump) {
-            return jump + 1 < size ? Math.max(jump + 1, code[jump + 1] - 1) : size;
+            return jump + 1 < size ? code[jump + 1] - 1 : size;
         }
 
         private static int worked(int step, int left, int right) {

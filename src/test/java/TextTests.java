@@ -343,6 +343,8 @@ public final class TextTests {
             x.nights(1);
             x.morning();
             Check.due("seen", x.guest(0, 7), 1);
+            // one more good text, so that the next ones stand in place of another one each time
+            Check.due("read", x.read(), 0);
             Check.put(x, "owes=1+2*((3-4*(5-;");
             Check.due("read", x.read(), 1);
         }
