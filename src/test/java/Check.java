@@ -1,13 +1,11 @@
-/** What the tests share: putting a text on the tape, and counting answers that are not due. */
-final class Check {
+/** What the tests share, which extend it: putting a text on the tape, and counting answers that are not due. */
+abstract class Check {
     /** What no argument may be. */
     static final int[] WILD = {-2, -1000, Integer.MIN_VALUE, Integer.MAX_VALUE};
 
     private static int wrong = 0;
     private static int asked = 0;
     private static String sentence = "";
-
-    private Check() { }
 
     /** The sentence of the document that the next answers hold; SentenceTests looks it up there. */
     static void says(String words) {

@@ -13,7 +13,7 @@ import java.util.regex.Matcher;
 import java.util.regex.Pattern;
 
 /** The rules of LANGUAGE.md that can be seen from the source or the class, and the public face. */
-public final class LanguageTests {
+public final class LanguageTests extends Check {
     private static final String FACE = "int feed int int int int int|int back int|int read|int place|int guest int int|int inn int int"
             + "|int gives int int|boolean lodge int int|int nights int|int morning|boolean swap int int|int deposit int boolean|boolean undo"
             + "|int owes int int int|int mean int int boolean|int sure int|int lodging int|int lodgingAt int int|int swaps int"
@@ -24,11 +24,11 @@ public final class LanguageTests {
         face();
         classes();
         source(Files.readString(Path.of("src/main/java/DreamDuty.java")));
-        Check.end();
+        end();
     }
 
     private static void none(String what, Set<String> found) {
-        Check.due(what + " " + found, found.size(), 0);
+        due(what + " " + found, found.size(), 0);
     }
 
     private static void face() {
@@ -46,33 +46,33 @@ public final class LanguageTests {
         due.removeAll(face);
         none("less than the face", due);
         for (Field f : DreamDuty.class.getDeclaredFields()) {
-            Check.due("field " + f.getName(), Modifier.isPrivate(f.getModifiers()) || f.getName().equals("NONE"), true);
+            due("field " + f.getName(), Modifier.isPrivate(f.getModifiers()) || f.getName().equals("NONE"), true);
         }
         Constructor<?>[] made = DreamDuty.class.getDeclaredConstructors();
-        Check.due("constructors", made.length, 1);
-        Check.due("constructor is public", Modifier.isPublic(made[0].getModifiers()), true);
-        Check.due("class is public and final", DreamDuty.class.getModifiers(), Modifier.PUBLIC | Modifier.FINAL);
+        due("constructors", made.length, 1);
+        due("constructor is public", Modifier.isPublic(made[0].getModifiers()), true);
+        due("class is public and final", DreamDuty.class.getModifiers(), Modifier.PUBLIC | Modifier.FINAL);
     }
 
     private static void classes() {
         List<Class<?>> all = new ArrayList<>(List.of(DreamDuty.class.getDeclaredClasses()));
         all.add(DreamDuty.class);
-        Check.due("twelve classes at most", all.size() <= 12, true);
+        due("twelve classes at most", all.size() <= 12, true);
         Set<String> names = new HashSet<>();
         for (Method m : DreamDuty.class.getDeclaredMethods()) if (Modifier.isPublic(m.getModifiers())) names.add(m.getName());
         for (Class<?> c : all) {
-            Check.due(c + " is static", c == DreamDuty.class || Modifier.isStatic(c.getModifiers()), true);
+            due(c + " is static", c == DreamDuty.class || Modifier.isStatic(c.getModifiers()), true);
             int fields = 0;
             for (Field f : c.getDeclaredFields()) {
                 boolean isStatic = Modifier.isStatic(f.getModifiers());
                 if (!isStatic) fields++;
-                Check.due("static is final: " + f, !isStatic || Modifier.isFinal(f.getModifiers()), true);
+                due("static is final: " + f, !isStatic || Modifier.isFinal(f.getModifiers()), true);
             }
-            Check.due("fields of " + c, fields <= 20, true);
+            due("fields of " + c, fields <= 20, true);
             for (Method m : c.getDeclaredMethods()) {
-                Check.due("parameters of " + m, m.getParameterCount() <= 7, true);
+                due("parameters of " + m, m.getParameterCount() <= 7, true);
                 boolean own = c == DreamDuty.class && Modifier.isPublic(m.getModifiers());
-                Check.due("a name of the face: " + m, own || !names.contains(m.getName()), true);
+                due("a name of the face: " + m, own || !names.contains(m.getName()), true);
             }
         }
     }
@@ -102,7 +102,7 @@ public final class LanguageTests {
             if (!m.matches()) continue;
             int end = i;
             while (end < lines.length && !lines[end].equals(m.group(1) + "}")) end++;
-            Check.due("lines of " + lines[i].trim(), end - i <= 60, true);
+            due("lines of " + lines[i].trim(), end - i <= 60, true);
         }
     }
 }

@@ -1,5 +1,5 @@
 /** A test for each sentence of the document's part II. that tells what a law answers, what is owed, and what LOT is. */
-public final class LawBoundaryTests {
+public final class LawBoundaryTests extends Check {
     private static final String MIN = "2048*1024*1024";
     private static final String MAX = "2048*1024*1024-1";
     private static final String[] SIX = {"ga", "gb", "gc", "gd", "ge", "gf"};
@@ -23,12 +23,8 @@ public final class LawBoundaryTests {
         twice();
         alike();
         lots();
-        Check.end();
+        end();
     }
-
-    private static void says(String sentence) { Check.says(sentence); }
-    private static void due(String call, long got, long want) { Check.due(call, got, want); }
-    private static DreamDuty of(String text) { return Check.of(text); }
 
     private static void law(String law, int want) {
         DreamDuty x = of("thing z 1;thing a 7;inn i 0 2 5;guest g 1 60 3;owes=" + law + ";");
@@ -341,7 +337,7 @@ public final class LawBoundaryTests {
 
     private static void alike() {
         says("alike: how many other GUESTS have a DREAM of the same THING now (MUCH: as it stands then).");
-        DreamDuty x = of("thing a 1;inn i 0 7 0;" + Check.times(6, "guest", " 0 0 0") + "much=alike;owes=alike;shows=alike;");
+        DreamDuty x = of("thing a 1;inn i 0 7 0;" + times(6, "guest", " 0 0 0") + "much=alike;owes=alike;shows=alike;");
         for (int g = 0; g < 6; g++) x.lodge(g, 0);
         x.nights(1);
         for (int g = 0; g < 6; g++) {
@@ -379,7 +375,7 @@ public final class LawBoundaryTests {
             {"336231", "644420", "012130", "205442", "524451", "460153"},
             {"152340", "505032", "643612", "102536", "542425", "035021"},
             {"655225", "215410", "042141", "444126", "343353", "332403"}};
-        StringBuilder world = new StringBuilder(Check.times(7, "thing", " 1") + "inn i 0 7 0;" + Check.times(6, "guest", " 0 0 0"));
+        StringBuilder world = new StringBuilder(times(7, "thing", " 1") + "inn i 0 7 0;" + times(6, "guest", " 0 0 0"));
         for (int t = 0; t < 7; t++) world.append("gives i t").append((char) ('a' + t)).append(" 9;");
         for (int s = 0; s < seeds.length; s++) {
             DreamDuty x = of(world + "seed " + seeds[s] + ";");

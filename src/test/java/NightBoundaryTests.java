@@ -2,11 +2,9 @@ import java.util.ArrayList;
 import java.util.List;
 
 /** A test for each sentence of the document's part II. on dreams, nights, mornings and what is done by hand, and of promises 6 to 14. */
-public final class NightBoundaryTests {
-    private static final int[] WILD = Check.WILD;
-
+public final class NightBoundaryTests extends Check {
     // Six guests, one inn with a bed for each, and one thing that all dream.
-    private static final String SIX = "thing a 1;inn i 2 7 0;inn j 3 1 0;" + Check.times(6, "guest", " 10 100 1");
+    private static final String SIX = "thing a 1;inn i 2 7 0;inn j 3 1 0;" + times(6, "guest", " 10 100 1");
 
     public static void main(String[] args) {
         dreamTwice();
@@ -47,14 +45,8 @@ public final class NightBoundaryTests {
         undoDeposits();
         undoTheLast40();
         undoNone();
-        Check.end();
+        end();
     }
-
-    private static void says(String sentence) { Check.says(sentence); }
-    private static void due(String call, long got, long want) { Check.due(call, got, want); }
-    private static void due(String call, boolean got, boolean want) { Check.due(call, got, want); }
-    private static void due(String call, String got, String want) { Check.due(call, got, want); }
-    private static DreamDuty of(String text) { return Check.of(text); }
 
     private static DreamDuty six(String more) {
         DreamDuty x = of(SIX + more);
@@ -188,7 +180,7 @@ public final class NightBoundaryTests {
         says("is the first THING with which the WEIGHTS of his INN so far, together, are more than LOT (all WEIGHTS of it together)"
                 + " of the SEED and 64 * the night and his number");
         int[][] weights = {{0, 0, 0, 0, 0, 0, 9}, {1, 1, 1, 1, 1, 1, 1}, {0, 9, 0, 1, 0, 5, 0}, {9, 9, 9, 9, 9, 9, 9}, {1, 0, 0, 0, 0, 0, 1}};
-        StringBuilder world = new StringBuilder(Check.times(7, "thing", " 1") + Check.times(5, "inn", " 0 7 0") + Check.times(6, "guest", " 0 0 0"));
+        StringBuilder world = new StringBuilder(times(7, "thing", " 1") + times(5, "inn", " 0 7 0") + times(6, "guest", " 0 0 0"));
         for (int i = 0; i < 5; i++) {
             for (int t = 0; t < 7; t++) world.append("gives i").append((char) ('a' + i)).append(" t").append((char) ('a' + t)).append(' ').append(weights[i][t]).append(';');
         }
@@ -307,7 +299,7 @@ public final class NightBoundaryTests {
                 for (int night = 1; night <= 3; night++) {
                     int lot = Oracle.lot(100, 77, 64 * night + 32 + g);
                     for (int more = 0; more < 2; more++) {
-                        DreamDuty x = of("thing a 7;inn i 0 7 0;" + Check.times(6, "guest", " 50 0 0") + "seed 77;fine " + fine + ";shows=" + (lot + more) + ";");
+                        DreamDuty x = of("thing a 7;inn i 0 7 0;" + times(6, "guest", " 50 0 0") + "seed 77;fine " + fine + ";shows=" + (lot + more) + ";");
                         x.lodge(g, 0);
                         x.nights(night);
                         due("morning", x.morning(), more * fine * 7);
@@ -321,7 +313,7 @@ public final class NightBoundaryTests {
         says("(held to 0 .. 100)");
         String[] laws = {"0", "0-1", "2048*1024*1024", "1/0", "100", "101", "9999", "2048*1024*1024-1"};
         for (int i = 0; i < laws.length; i++) {
-            DreamDuty x = of("thing a 1;inn i 0 7 0;" + Check.times(6, "guest", " 0 0 0") + "shows=" + laws[i] + ";");
+            DreamDuty x = of("thing a 1;inn i 0 7 0;" + times(6, "guest", " 0 0 0") + "shows=" + laws[i] + ";");
             for (int g = 0; g < 6; g++) x.lodge(g, 0);
             for (int n = 0; n < 20; n++) {
                 x.nights(1);
@@ -415,7 +407,7 @@ public final class NightBoundaryTests {
 
     private static void byHandLodged() {
         says("By hand: a GUEST is LODGED (if there is a BED yet), or goes;");
-        DreamDuty x = of("inn i 0 6 0;inn j 0 1 0;inn k 0 5 0;" + Check.times(6, "guest", " 0 0 0"));
+        DreamDuty x = of("inn i 0 6 0;inn j 0 1 0;inn k 0 5 0;" + times(6, "guest", " 0 0 0"));
         for (int g = 0; g < 5; g++) due("a bed yet", x.lodge(g, 2), true);
         due("no bed", x.lodge(5, 2), false);
         due("the only bed", x.lodge(0, 1), true);
@@ -426,7 +418,7 @@ public final class NightBoundaryTests {
         for (int g = 0; g < 6; g++) due("a bed for each", x.lodge(g, 0), true);
         // each inn of five, with each number of beds
         for (int beds = 1; beds <= 6; beds++) {
-            DreamDuty y = of(Check.times(5, "inn", " 0 " + beds + " 0") + Check.times(6, "guest", " 0 0 0"));
+            DreamDuty y = of(times(5, "inn", " 0 " + beds + " 0") + times(6, "guest", " 0 0 0"));
             for (int i = 0; i < 5; i++) {
                 for (int g = 0; g < 6; g++) due(beds + " beds, inn " + i, y.lodge(g, i), g < beds);
             }
@@ -435,7 +427,7 @@ public final class NightBoundaryTests {
 
     private static void byHandSwapped() {
         says("two GUESTS SWAP their DREAMS (or none);");
-        DreamDuty x = of("thing a 1;thing b 1;inn i 0 1 0;inn j 0 1 0;gives i b 0;gives j a 0;" + Check.times(6, "guest", " 0 0 0") + "much=which+3;");
+        DreamDuty x = of("thing a 1;thing b 1;inn i 0 1 0;inn j 0 1 0;gives i b 0;gives j a 0;" + times(6, "guest", " 0 0 0") + "much=which+3;");
         x.lodge(0, 0);
         x.lodge(5, 1);
         x.nights(1);
@@ -539,7 +531,7 @@ public final class NightBoundaryTests {
 
     private static void innOthers() {
         says("4 all WEIGHTS. NONE for others.");
-        DreamDuty x = of(Check.times(5, "inn", " 1 7 1"));
+        DreamDuty x = of(times(5, "inn", " 1 7 1"));
         due("the last", x.inn(4, 1), 7);
         for (int i : new int[] {-1, 5, 6, 32}) due("inn " + i, x.inn(i, 1), -1);
         for (int what : new int[] {-1, 5, 6, 100}) due("what " + what, x.inn(0, what), -1);
@@ -552,7 +544,7 @@ public final class NightBoundaryTests {
 
     private static void gives() {
         says("WEIGHT with which an INN gives a THING; NONE: no such ones.");
-        DreamDuty x = of(Check.times(7, "thing", " 1") + Check.times(5, "inn", " 1 7 1") + "gives ia ta 0;gives ia tg 9;gives ie ta 8;gives ie tg 7;gives ib tb 2;");
+        DreamDuty x = of(times(7, "thing", " 1") + times(5, "inn", " 1 7 1") + "gives ia ta 0;gives ia tg 9;gives ie ta 8;gives ie tg 7;gives ib tb 2;");
         due("the least", x.gives(0, 0), 0);
         due("the most", x.gives(0, 6), 9);
         due("the last inn", x.gives(4, 0), 8);
@@ -596,11 +588,11 @@ public final class NightBoundaryTests {
         x.lodge(1, 0);
         x.nights(1);
         int[][] calls = {{0, 1}, {1, 0}, {2, -1}, {5, -1}, {2, 1}, {1, 1}, {0, 2}, {0, 5}, {0, -2}, {6, 0}, {6, -1}, {-1, 0}, {-1, -1}, {7, 7}};
-        for (int[] c : calls) Check.still(x, () -> due("lodge " + c[0] + " " + c[1], x.lodge(c[0], c[1]), false));
+        for (int[] c : calls) still(x, () -> due("lodge " + c[0] + " " + c[1], x.lodge(c[0], c[1]), false));
         for (int w : WILD) {
-            Check.still(x, () -> due("lodge wild", x.lodge(w, 0), false));
-            Check.still(x, () -> due("lodge wild", x.lodge(w, -1), false));
-            Check.still(x, () -> due("lodge wild", x.lodge(0, w), false));
+            still(x, () -> due("lodge wild", x.lodge(w, 0), false));
+            still(x, () -> due("lodge wild", x.lodge(w, -1), false));
+            still(x, () -> due("lodge wild", x.lodge(0, w), false));
         }
         DreamDuty y = of("guest g 1 1 1;");
         due("no inns", y.lodge(0, 0), false);
@@ -610,10 +602,10 @@ public final class NightBoundaryTests {
     private static void nights() {
         says("n NIGHTS (0 .. 30; 0 is no thing done), no MORNINGS: which it is;");
         DreamDuty x = six("much=night;");
-        Check.still(x, () -> due("none", x.nights(0), 0));
+        still(x, () -> due("none", x.nights(0), 0));
         due("one", x.nights(1), 1);
         due("undone", x.count(9), 7);
-        Check.still(x, () -> due("none", x.nights(0), 1));
+        still(x, () -> due("none", x.nights(0), 1));
         due("thirty", x.nights(30), 31);
         due("one thing done", x.count(9), 8);
         due("coins", x.guest(0, 0), 10 - 2 * 31);
@@ -631,14 +623,14 @@ public final class NightBoundaryTests {
         says("NONE, and nothing happens: no such n.");
         DreamDuty x = six("");
         x.nights(2);
-        for (int n : new int[] {-1, 31, 32, 60, 1000}) Check.still(x, () -> due("nights " + n, x.nights(n), -1));
-        for (int w : WILD) Check.still(x, () -> due("nights " + w, x.nights(w), -1));
+        for (int n : new int[] {-1, 31, 32, 60, 1000}) still(x, () -> due("nights " + n, x.nights(n), -1));
+        for (int w : WILD) still(x, () -> due("nights " + w, x.nights(w), -1));
         due("the next one", x.nights(1), 3);
     }
 
     private static void morning() {
         says("MORNING: how much all pay together;");
-        DreamDuty x = of("thing a 3;inn i 0 7 0;" + Check.times(5, "guest", " 0 100 9") + "guest z 0 0 1;shows=100;fine 9;owes=100*degree;twins ga gb;");
+        DreamDuty x = of("thing a 3;inn i 0 7 0;" + times(5, "guest", " 0 100 9") + "guest z 0 0 1;shows=100;fine 9;owes=100*degree;twins ga gb;");
         for (int g = 0; g < 6; g++) x.lodge(g, 0);
         x.nights(1);
         due("all", x.morning(), 4 * 900 + 9 * 100);
@@ -653,13 +645,13 @@ public final class NightBoundaryTests {
     private static void morningRefused() {
         says("-2, and nothing happens: nobody has a DREAM.");
         DreamDuty x = six("");
-        Check.still(x, () -> due("not yet", x.morning(), -2));
+        still(x, () -> due("not yet", x.morning(), -2));
         x.nights(1);
         x.morning();
-        Check.still(x, () -> due("not any more", x.morning(), -2));
+        still(x, () -> due("not any more", x.morning(), -2));
         x.nights(1);
         for (int g = 0; g < 6; g++) x.deposit(g, false);
-        Check.still(x, () -> due("all on deposit", x.morning(), -2));
+        still(x, () -> due("all on deposit", x.morning(), -2));
         x.deposit(4, true);
         due("one of them", x.morning(), 1);
         due("nobody there", new DreamDuty().morning(), -2);
@@ -682,18 +674,18 @@ public final class NightBoundaryTests {
     private static void swapRefused() {
         says("false, and nothing happens: neither has a DREAM, one and the same, no such ones.");
         DreamDuty x = of(SIX);
-        Check.still(x, () -> due("neither", x.swap(0, 1), false));
+        still(x, () -> due("neither", x.swap(0, 1), false));
         x.lodge(0, 0);
         x.nights(1);
         int[][] calls = {{1, 2}, {4, 5}, {0, 0}, {1, 1}, {5, 5}, {0, 6}, {6, 0}, {0, -1}, {-1, 0}, {-1, -1}, {6, 6}, {-2, 0}};
-        for (int[] c : calls) Check.still(x, () -> due("swap " + c[0] + " " + c[1], x.swap(c[0], c[1]), false));
+        for (int[] c : calls) still(x, () -> due("swap " + c[0] + " " + c[1], x.swap(c[0], c[1]), false));
         for (int w : WILD) {
-            Check.still(x, () -> due("swap wild", x.swap(w, 0), false));
-            Check.still(x, () -> due("swap wild", x.swap(0, w), false));
-            Check.still(x, () -> due("swap wild", x.swap(w, w), false));
+            still(x, () -> due("swap wild", x.swap(w, 0), false));
+            still(x, () -> due("swap wild", x.swap(0, w), false));
+            still(x, () -> due("swap wild", x.swap(w, w), false));
         }
         x.deposit(0, false);
-        Check.still(x, () -> due("on deposit is not had", x.swap(0, 1), false));
+        still(x, () -> due("on deposit is not had", x.swap(0, 1), false));
     }
 
     private static void deposit() {
@@ -715,29 +707,29 @@ public final class NightBoundaryTests {
     private static void depositRefused() {
         says("-2, and nothing happens: he has none (or one), 5 are there (or none); NONE: no such one.");
         DreamDuty x = six("");
-        Check.still(x, () -> due("he has none", x.deposit(0, false), -2));
-        Check.still(x, () -> due("none there", x.deposit(0, true), -2));
+        still(x, () -> due("he has none", x.deposit(0, false), -2));
+        still(x, () -> due("none there", x.deposit(0, true), -2));
         x.nights(1);
-        Check.still(x, () -> due("he has one, none there", x.deposit(0, true), -2));
+        still(x, () -> due("he has one, none there", x.deposit(0, true), -2));
         x.deposit(0, false);
-        Check.still(x, () -> due("he has none, one there", x.deposit(0, false), -2));
+        still(x, () -> due("he has none, one there", x.deposit(0, false), -2));
         x.nights(1);
-        Check.still(x, () -> due("he has one, one there", x.deposit(0, true), -2));
+        still(x, () -> due("he has one, one there", x.deposit(0, true), -2));
         for (int n = 2; n <= 5; n++) {
             due("leaves", x.deposit(0, false), n);
             x.nights(1);
         }
-        Check.still(x, () -> due("five there", x.deposit(0, false), -2));
-        Check.still(x, () -> due("he has one, five there", x.deposit(0, true), -2));
+        still(x, () -> due("five there", x.deposit(0, false), -2));
+        still(x, () -> due("he has one, five there", x.deposit(0, true), -2));
         x.morning();
-        Check.still(x, () -> due("he has none, five there", x.deposit(0, false), -2));
+        still(x, () -> due("he has none, five there", x.deposit(0, false), -2));
         for (int g : new int[] {-1, 6, 7}) {
-            Check.still(x, () -> due("no such one", x.deposit(g, false), -1));
-            Check.still(x, () -> due("no such one", x.deposit(g, true), -1));
+            still(x, () -> due("no such one", x.deposit(g, false), -1));
+            still(x, () -> due("no such one", x.deposit(g, true), -1));
         }
         for (int w : WILD) {
-            Check.still(x, () -> due("no such one", x.deposit(w, false), -1));
-            Check.still(x, () -> due("no such one", x.deposit(w, true), -1));
+            still(x, () -> due("no such one", x.deposit(w, false), -1));
+            still(x, () -> due("no such one", x.deposit(w, true), -1));
         }
         due("at an empty border", new DreamDuty().deposit(0, true), -1);
     }
@@ -764,14 +756,14 @@ public final class NightBoundaryTests {
         DreamDuty x = of(SIX + "thing b 5;much=night;shows=30;");
         List<String> ahead = new ArrayList<>();
         for (int n = 0; n < 60 && ahead.size() < 16; n++) {
-            String shown = Check.shown(x);
+            String shown = shown(x);
             act(x, n);
             if (x.count(9) > ahead.size()) ahead.add(shown);
         }
         due("things done", x.count(9), ahead.size());
         while (!ahead.isEmpty()) {
             due("undo", x.undo(), true);
-            due("shown", Check.shown(x), ahead.remove(ahead.size() - 1));
+            due("shown", shown(x), ahead.remove(ahead.size() - 1));
         }
         due("none left", x.undo(), false);
         // what is undone is not done again, and what is done then is undone first
@@ -849,7 +841,7 @@ public final class NightBoundaryTests {
     private static void undoNone() {
         says("false: there is none");
         DreamDuty x = of(SIX);
-        Check.still(x, () -> due("none", x.undo(), false));
+        still(x, () -> due("none", x.undo(), false));
         // nothing of this is a thing done
         x.nights(0);
         x.nights(31);
@@ -867,10 +859,10 @@ public final class NightBoundaryTests {
         x.poorBy(0);
         x.year(0, 3, 3);
         x.swaps(0);
-        Check.still(x, () -> due("none", x.undo(), false));
+        still(x, () -> due("none", x.undo(), false));
         x.lodge(0, 0);
         due("one", x.undo(), true);
-        Check.still(x, () -> due("none", x.undo(), false));
+        still(x, () -> due("none", x.undo(), false));
         due("at an empty border", new DreamDuty().undo(), false);
     }
 }

@@ -1,7 +1,5 @@
 /** Promises 1 and 6 to 33, a method each: ordinary inputs, edges, wrong inputs. */
-public final class PromiseTests {
-    private static final int[] WILD = {-2, -1000, Integer.MIN_VALUE, Integer.MAX_VALUE};
-
+public final class PromiseTests extends Check {
     // Fox gives teeth alone, owl sea three times of four: but for owl no lot decides.
     private static final String BORDER = "thing sea 2;thing teeth 9;thing aunt 5;inn fox 4 2 1;inn owl 7 1 0;"
             + "gives fox sea 0;gives fox aunt 0;gives owl sea 3;gives owl teeth 0;"
@@ -41,12 +39,8 @@ public final class PromiseTests {
         p28to30();
         p31and32();
         p33();
-        Check.end();
+        end();
     }
-
-    private static void due(String call, long got, long want) { Check.due(call, got, want); }
-    private static void due(String call, boolean got, boolean want) { Check.due(call, got, want); }
-    private static DreamDuty of(String text) { return Check.of(text); }
 
     private static void p1() {
         DreamDuty x = new DreamDuty();

@@ -9,7 +9,7 @@ import java.util.stream.Collectors;
 import java.util.stream.Stream;
 
 /** Each sentence of the document is told by a test as what it holds; and what a test tells stands there. */
-public final class SentenceTests {
+public final class SentenceTests extends Check {
     private static final Path DOCUMENT = Path.of("../shared/DOC.md");
     private static final Path TESTS = Path.of("src/test/java");
 
@@ -21,15 +21,15 @@ public final class SentenceTests {
         String document = sentences(Files.readString(DOCUMENT));
         boolean[] told = new boolean[document.length()];
         List<String> all = saidByTests();
-        Check.due("there are such tests", all.size() > 100, true);
+        due("there are such tests", all.size() > 100, true);
         for (String said : all) {
             int at = document.indexOf(said);
-            Check.due("the document says <" + said + ">", at >= 0, true);
-            Check.due("the document says it once only: <" + said + ">", document.lastIndexOf(said), at);
+            due("the document says <" + said + ">", at >= 0, true);
+            due("the document says it once only: <" + said + ">", document.lastIndexOf(said), at);
             for (int i = 0; at >= 0 && i < said.length(); i++) told[at + i] = true;
         }
-        for (String left : untold(document, told)) Check.due("a test of <" + left + ">", false, true);
-        Check.end();
+        for (String left : untold(document, told)) due("a test of <" + left + ">", false, true);
+        end();
     }
 
     // Headings, the face and signatures are no sentences.

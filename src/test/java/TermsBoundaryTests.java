@@ -1,7 +1,7 @@
 import java.util.List;
 
 /** A test for each sentence of the document's 'Terms', and of its promises 1 to 5. */
-public final class TermsBoundaryTests {
+public final class TermsBoundaryTests extends Check {
     // 22 tokens: one or two of each sort that the texts below tell of.
     private static final String START = "thing t 1;inn i 1 1 1;guest g 1 1 1;guest h 1 1 1;";
     private static final int START_TOKENS = 22;
@@ -81,16 +81,9 @@ public final class TermsBoundaryTests {
         backTooMuch();
         read();
         place();
-        Check.end();
+        end();
     }
 
-    private static void says(String sentence) { Check.says(sentence); }
-    private static void due(String call, long got, long want) { Check.due(call, got, want); }
-    private static void due(String call, String got, String want) { Check.due(call, got, want); }
-    private static void fault(String text, int number, int place) { Check.fault(text, number, place); }
-    private static void good(String text) { Check.good(text); }
-    private static DreamDuty of(String text) { return Check.of(text); }
-    private static String times(int n, String word, String behind) { return Check.times(n, word, behind); }
     private static boolean blank(int b) { return b == 9 || b == 10 || b == 13 || b == 32; }
     private static boolean digit(int b) { return b >= 48 && b <= 57; }
     private static boolean letter(int b) { return b >= 97 && b <= 122; }
@@ -165,7 +158,7 @@ public final class TermsBoundaryTests {
     private static void intsOfFourDigits() {
         says("INTS (1 to 4 digits),");
         good("seed 7;seed 77;seed 777;seed 7777;seed 0000;seed 0007;");
-        due("seven", Check.of("fine 0007;").count(12), 7);
+        due("seven", of("fine 0007;").count(12), 7);
         for (String n : new String[] {"00000", "12345", "00007", "9999999999", "4294967297"}) fault("seed " + n + ";", 1, 5);
         good("much=9999;owes=0000;");
         fault("much=10000;", 1, 5);
@@ -691,7 +684,7 @@ public final class TermsBoundaryTests {
 
     // Two borders of which one has had other texts: what they show, and what comes of a few nights.
     private static void alikeFromHereOn(DreamDuty x, DreamDuty y) {
-        due("shown", Check.shown(x), Check.shown(y));
+        due("shown", shown(x), shown(y));
         for (int guest = 0; guest < y.count(2); guest++) {
             due("deposit", x.deposit(guest, true), -2);
             due("lodge", x.lodge(guest, guest % 2) ? 1 : 0, y.lodge(guest, guest % 2) ? 1 : 0);
@@ -699,7 +692,7 @@ public final class TermsBoundaryTests {
         due("nights", x.nights(3), y.nights(3));
         due("would", would(x), would(y));
         due("morning", x.morning(), y.morning());
-        due("shown then", Check.shown(x), Check.shown(y));
+        due("shown then", shown(x), shown(y));
     }
 
     // It tells of less than the ones ahead of it: no laws, no seed, no fine, no weights, no twins.
@@ -714,25 +707,25 @@ public final class TermsBoundaryTests {
         says("A text with a FAULT changes nothing but the tape;");
         for (int number = 1; number <= 5; number++) {
             DreamDuty x = busy();
-            String shown = Check.shown(x);
+            String shown = shown(x);
             String would = would(x);
             for (int again = 0; again < 2; again++) {
-                Check.put(x, FAULTY[number - 1]);
+                put(x, FAULTY[number - 1]);
                 due("read", x.read(), number);
-                due("shown", Check.shown(x), shown);
+                due("shown", shown(x), shown);
                 due("would", would(x), would);
             }
             DreamDuty y = busy();
             due("undo", x.undo() ? 1 : 0, y.undo() ? 1 : 0);
-            due("shown", Check.shown(x), Check.shown(y));
+            due("shown", shown(x), shown(y));
             due("restore", x.restore(1) ? 1 : 0, y.restore(1) ? 1 : 0);
-            due("shown", Check.shown(x), Check.shown(y));
+            due("shown", shown(x), shown(y));
             // what it told halfway is not told by the next one either
             for (String text : new String[] {BUSY, PLAIN}) {
                 DreamDuty z = busy();
-                Check.put(z, FAULTY[number - 1]);
+                put(z, FAULTY[number - 1]);
                 due("read", z.read(), number);
-                Check.put(z, text);
+                put(z, text);
                 due("read behind it", z.read(), 0);
                 alikeFromHereOn(z, of(text));
             }
@@ -744,16 +737,16 @@ public final class TermsBoundaryTests {
         for (String text : new String[] {"", BUSY, PLAIN, "guest h 3 3 3;inn j 4 4 4;"}) {
             DreamDuty x = busy();
             for (int again = 0; again < 3; again++) {
-                Check.put(x, text);
+                put(x, text);
                 due("read", x.read(), 0);
                 alikeFromHereOn(x, of(text));
-                if (again == 0) Check.put(x, BUSY);
+                if (again == 0) put(x, BUSY);
                 if (again == 0) due("read", x.read(), 0);
             }
         }
         says("nothing can be undone, nothing is TOLD, SLOTS hold nothing.");
         DreamDuty x = busy();
-        Check.put(x, BUSY);
+        put(x, BUSY);
         due("read", x.read(), 0);
         due("undone", x.count(9), 0);
         due("undo", x.undo() ? 1 : 0, 0);
@@ -768,7 +761,7 @@ public final class TermsBoundaryTests {
     private static void newObject() {
         says("Nothing is told.");
         DreamDuty x = new DreamDuty();
-        due("as behind an empty text", Check.shown(x), Check.shown(of("")));
+        due("as behind an empty text", shown(x), shown(of("")));
         due("would", would(x), would(of("")));
         due("place", x.place(), -1);
         due("guest", x.guest(0, 0), -100000);
@@ -820,16 +813,16 @@ public final class TermsBoundaryTests {
         says("The last n bytes of the tape go: how many it has.");
         DreamDuty x = new DreamDuty();
         due("back of none", x.back(0), 0);
-        Check.put(x, "fine 7;thing a 1;much");
+        put(x, "fine 7;thing a 1;much");
         due("back none", x.back(0), 21);
         due("back", x.back(4), 17);
         due("back", x.back(1), 16);
         due("back", x.back(9), 7);
-        Check.put(x, "fine 8;x");
+        put(x, "fine 8;x");
         due("back", x.back(1), 14);
         due("read", x.read(), 0);
         due("fine", x.count(12), 8);
-        Check.put(x, "fine 3;");
+        put(x, "fine 3;");
         due("all", x.back(7), 0);
         due("read", x.read(), 0);
         due("fine", x.count(12), 2);
@@ -839,7 +832,7 @@ public final class TermsBoundaryTests {
         says("NONE, and nothing goes, if it has not so many, or n is below 0.");
         DreamDuty x = new DreamDuty();
         for (int n : new int[] {1, -1, Integer.MAX_VALUE, Integer.MIN_VALUE}) due("back of none " + n, x.back(n), -1);
-        Check.put(x, "fine 7;");
+        put(x, "fine 7;");
         for (int n : new int[] {8, 20, Integer.MAX_VALUE, -1, -7, Integer.MIN_VALUE}) {
             due("back " + n, x.back(n), -1);
             due("count", x.count(8), 7);
@@ -853,12 +846,12 @@ public final class TermsBoundaryTests {
         says("The tape, which is empty then, is read: 0, or the number of its FAULT.");
         DreamDuty x = of("thing a 1;fine 5;");
         for (int number = 1; number <= 5; number++) {
-            Check.put(x, FAULTY[number - 1]);
+            put(x, FAULTY[number - 1]);
             due("read", x.read(), number);
             due("tape", x.count(8), 0);
             due("fine", x.count(12), 5);
         }
-        Check.put(x, "fine 6;");
+        put(x, "fine 6;");
         due("read", x.read(), 0);
         due("tape", x.count(8), 0);
         due("fine", x.count(12), 6);
@@ -871,22 +864,22 @@ public final class TermsBoundaryTests {
         says("The byte of the latest read()'s FAULT; NONE without.");
         DreamDuty x = new DreamDuty();
         due("without a read", x.place(), -1);
-        Check.put(x, "  x");
+        put(x, "  x");
         due("ahead of the read", x.place(), -1);
         x.read();
         due("place", x.place(), 2);
-        Check.put(x, "fine 0;");
+        put(x, "fine 0;");
         x.back(1);
         x.nights(1);
         due("the latest one", x.place(), 2);
         x.read();
         due("place", x.place(), 6);
-        Check.put(x, "fine 0;");
+        put(x, "fine 0;");
         x.read();
         due("place", x.place(), 5);
         x.read();
         due("without", x.place(), -1);
-        Check.put(x, ";");
+        put(x, ";");
         x.read();
         due("the first byte", x.place(), 0);
     }

@@ -1,5 +1,5 @@
 /** Promises 2 to 5: the tape, the texts, their faults. */
-public final class TextTests {
+public final class TextTests extends Check {
     public static void main(String[] args) {
         tape();
         fullTape();
@@ -13,62 +13,50 @@ public final class TextTests {
         badTextChangesNothing();
         goodTextStartsAnew();
         defaults();
-        Check.end();
+        end();
     }
-
-    private static void fault(String text, int number, int place) {
-        DreamDuty x = new DreamDuty();
-        Check.put(x, text);
-        Check.due("read of <" + text + ">", x.read(), number);
-        Check.due("place of <" + text + ">", x.place(), place);
-        Check.due("tape behind it", x.count(8), 0);
-    }
-
-    private static void good(String text) { fault(text, 0, -1); }
-
-    private static String times(String s, int n) { return s.repeat(n); }
 
     private static void tape() {
         DreamDuty x = new DreamDuty();
-        Check.due("place", x.place(), -1);
-        Check.due("back(0)", x.back(0), 0);
-        Check.due("back(1)", x.back(1), -1);
-        Check.due("back(-1)", x.back(-1), -1);
-        Check.due("back(min)", x.back(Integer.MIN_VALUE), -1);
+        due("place", x.place(), -1);
+        due("back(0)", x.back(0), 0);
+        due("back(1)", x.back(1), -1);
+        due("back(-1)", x.back(-1), -1);
+        due("back(min)", x.back(Integer.MIN_VALUE), -1);
         // "fine 9;" and blanks, the highest byte first
-        Check.due("feed", x.feed(0x66696e65, 0x20393b20, 0x090a0d20, 0x20202020, 0x20202020), 20);
-        Check.due("count(8)", x.count(8), 20);
-        Check.due("back(21)", x.back(21), -1);
-        Check.due("back(max)", x.back(Integer.MAX_VALUE), -1);
-        Check.due("count(8)", x.count(8), 20);
-        Check.due("read", x.read(), 0);
-        Check.due("count(12)", x.count(12), 9);
-        Check.due("count(8)", x.count(8), 0);
+        due("feed", x.feed(0x66696e65, 0x20393b20, 0x090a0d20, 0x20202020, 0x20202020), 20);
+        due("count(8)", x.count(8), 20);
+        due("back(21)", x.back(21), -1);
+        due("back(max)", x.back(Integer.MAX_VALUE), -1);
+        due("count(8)", x.count(8), 20);
+        due("read", x.read(), 0);
+        due("count(12)", x.count(12), 9);
+        due("count(8)", x.count(8), 0);
         // bytes above 127 are no token
-        Check.due("feed", x.feed(0x20e92020, 0, 0, 0, -1), 20);
-        Check.due("read", x.read(), 1);
-        Check.due("place", x.place(), 1);
-        Check.due("feed", x.feed(0x20202020, 0x20202020, 0x20202020, 0x20202020, 0x202020ff), 20);
-        Check.due("read", x.read(), 1);
-        Check.due("place", x.place(), 19);
-        Check.due("read", x.read(), 0);
-        Check.due("place", x.place(), -1);
+        due("feed", x.feed(0x20e92020, 0, 0, 0, -1), 20);
+        due("read", x.read(), 1);
+        due("place", x.place(), 1);
+        due("feed", x.feed(0x20202020, 0x20202020, 0x20202020, 0x20202020, 0x202020ff), 20);
+        due("read", x.read(), 1);
+        due("place", x.place(), 19);
+        due("read", x.read(), 0);
+        due("place", x.place(), -1);
     }
 
     private static void fullTape() {
         DreamDuty x = new DreamDuty();
         int b = 0x20202020;
-        for (int i = 1; i <= 100; i++) Check.due("feed", x.feed(b, b, b, b, b), 20 * i);
-        Check.due("feed over", x.feed(b, b, b, b, b), -1);
-        Check.due("back", x.back(19), 1981);
-        Check.due("feed over", x.feed(b, b, b, b, b), -1);
-        Check.due("count(8)", x.count(8), 1981);
-        Check.due("back", x.back(1), 1980);
-        Check.due("feed", x.feed(b, b, b, b, 0x20203b20), 2000);
-        Check.due("read", x.read(), 1);
-        Check.due("place", x.place(), 1998);
+        for (int i = 1; i <= 100; i++) due("feed", x.feed(b, b, b, b, b), 20 * i);
+        due("feed over", x.feed(b, b, b, b, b), -1);
+        due("back", x.back(19), 1981);
+        due("feed over", x.feed(b, b, b, b, b), -1);
+        due("count(8)", x.count(8), 1981);
+        due("back", x.back(1), 1980);
+        due("feed", x.feed(b, b, b, b, 0x20203b20), 2000);
+        due("read", x.read(), 1);
+        due("place", x.place(), 1998);
         for (int i = 1; i <= 100; i++) x.feed(b, b, b, b, b);
-        Check.due("read", x.read(), 0);
+        due("read", x.read(), 0);
     }
 
     private static void goodTexts() {
@@ -85,7 +73,7 @@ public final class TextTests {
         good("much=1;much=2;much=3;");
         good("thing things 1;thing nights 1;thing a 1;");
         // 400 tokens
-        good(times("fine 1;", 130) + "post p;" + "thing a 1;" + "fine 1;");
+        good("fine 1;".repeat(130) + "post p;" + "thing a 1;" + "fine 1;");
     }
 
     private static void syntax() {
@@ -170,7 +158,7 @@ public final class TextTests {
         String posts = "post a;post b;post c;post d;post e;post f;";
         good(posts);
         fault(posts + "post g;", 2, 42);
-        String four = times("if 1<2 then 3 else ", 4);
+        String four = "if 1<2 then 3 else ".repeat(4);
         good("much=" + four + "1;");
         good("much=" + four + "1;owes=" + four + "1;");
         fault("much=" + four + "if 1<2 then 3 else 1;", 2, 81);
@@ -181,14 +169,14 @@ public final class TextTests {
         fault("much=1+((((((1)))))))", 1, 20);
         fault("much=if ((((((1))))))<(((((((1))))))) then 1 else 2;", 2, 28);
         // 400 tokens, and one more
-        String most = times("fine 1;", 133);
+        String most = "fine 1;".repeat(133);
         fault(most + "seed", 1, 935);
         fault(most + "seed 1;", 2, 936);
         fault(most + "seed seed", 1, 936);
         fault(most + "seed 12345", 1, 936);
-        fault(times("fine 1;", 132) + "twins;", 1, 929);
-        fault("much=1;" + times("fine 1;", 132) + "fine 1;", 2, 931);
-        fault(times("fine 1;", 132) + "fine 0;seed 1;", 2, 936);
+        fault("fine 1;".repeat(132) + "twins;", 1, 929);
+        fault("much=1;" + "fine 1;".repeat(132) + "fine 1;", 2, 931);
+        fault("fine 1;".repeat(132) + "fine 0;seed 1;", 2, 936);
     }
 
     private static void twice() {
@@ -252,32 +240,32 @@ public final class TextTests {
     }
 
     private static void badTextChangesNothing() {
-        DreamDuty x = Check.of("thing a 3;inn i 2 2 1;guest g 9 100 1;fine 4;");
+        DreamDuty x = of("thing a 3;inn i 2 2 1;guest g 9 100 1;fine 4;");
         x.lodge(0, 0);
         x.nights(1);
         x.hold(1);
         x.tell(0);
-        Check.put(x, "thing b 3;thing c 3;thing b 100;");
-        Check.due("read", x.read(), 3);
-        Check.due("place", x.place(), 26);
-        Check.due("count(0)", x.count(0), 1);
-        Check.due("count(4)", x.count(4), 1);
-        Check.due("count(8)", x.count(8), 0);
-        Check.due("count(9)", x.count(9), 2);
-        Check.due("count(10)", x.count(10), 1);
-        Check.due("count(11)", x.count(11), 1);
-        Check.due("count(12)", x.count(12), 4);
-        Check.due("owes(0,0,5)", x.owes(0, 0, 5), 15);
-        Check.due("guest(0,2)", x.guest(0, 2), 0);
-        Check.due("undo", x.undo(), true);
-        Check.put(x, "much=");
-        Check.due("read", x.read(), 1);
-        Check.due("nights(1)", x.nights(1), 1);
-        Check.due("guest(0,3)", x.guest(0, 3), 1);
+        put(x, "thing b 3;thing c 3;thing b 100;");
+        due("read", x.read(), 3);
+        due("place", x.place(), 26);
+        due("count(0)", x.count(0), 1);
+        due("count(4)", x.count(4), 1);
+        due("count(8)", x.count(8), 0);
+        due("count(9)", x.count(9), 2);
+        due("count(10)", x.count(10), 1);
+        due("count(11)", x.count(11), 1);
+        due("count(12)", x.count(12), 4);
+        due("owes(0,0,5)", x.owes(0, 0, 5), 15);
+        due("guest(0,2)", x.guest(0, 2), 0);
+        due("undo", x.undo(), true);
+        put(x, "much=");
+        due("read", x.read(), 1);
+        due("nights(1)", x.nights(1), 1);
+        due("guest(0,3)", x.guest(0, 3), 1);
     }
 
     private static void goodTextStartsAnew() {
-        DreamDuty x = Check.of("thing a 3;inn i 2 2 1;guest g 9 100 1;fine 4;much=7;owes=5;shows=9;seed 5;");
+        DreamDuty x = of("thing a 3;inn i 2 2 1;guest g 9 100 1;fine 4;much=7;owes=5;shows=9;seed 5;");
         x.lodge(0, 0);
         x.nights(2);
         x.deposit(0, false);
@@ -286,27 +274,27 @@ public final class TextTests {
         x.hold(0);
         x.hold(2);
         x.tell(0);
-        Check.put(x, "thing q 6;inn h 1 1 1;guest f 7 0 1;guest r 4 0 0;");
-        Check.due("read", x.read(), 0);
-        for (int what : new int[] {4, 5, 6, 7, 8, 9, 10, 11}) Check.due("count " + what, x.count(what), 0);
-        Check.due("count(2)", x.count(2), 2);
-        Check.due("count(12)", x.count(12), 2);
-        Check.due("undo", x.undo(), false);
-        Check.due("restore", x.restore(0), false);
-        Check.due("from(1)", x.from(1), -1);
+        put(x, "thing q 6;inn h 1 1 1;guest f 7 0 1;guest r 4 0 0;");
+        due("read", x.read(), 0);
+        for (int what : new int[] {4, 5, 6, 7, 8, 9, 10, 11}) due("count " + what, x.count(what), 0);
+        due("count(2)", x.count(2), 2);
+        due("count(12)", x.count(12), 2);
+        due("undo", x.undo(), false);
+        due("restore", x.restore(0), false);
+        due("from(1)", x.from(1), -1);
         int[] of = {7, -2, -2, -2, 0, 0, 0, 0};
-        for (int what = 0; what < 8; what++) Check.due("guest " + what, x.guest(0, what), of[what]);
-        Check.due("inn(0,2)", x.inn(0, 2), -2);
-        Check.due("inn(0,3)", x.inn(0, 3), -2);
+        for (int what = 0; what < 8; what++) due("guest " + what, x.guest(0, what), of[what]);
+        due("inn(0,2)", x.inn(0, 2), -2);
+        due("inn(0,3)", x.inn(0, 3), -2);
         // the laws are the untold ones again
-        Check.due("owes", x.owes(0, 0, 2), 12);
+        due("owes", x.owes(0, 0, 2), 12);
         x.lodge(0, 0);
         x.nights(1);
-        Check.due("guest(0,3)", x.guest(0, 3), 1);
-        Check.due("shows(0)", x.shows(0), 50);
-        Check.put(x, "");
-        Check.due("read", x.read(), 0);
-        Check.due("count(2)", x.count(2), 0);
+        due("guest(0,3)", x.guest(0, 3), 1);
+        due("shows(0)", x.shows(0), 50);
+        put(x, "");
+        due("read", x.read(), 0);
+        due("count(2)", x.count(2), 0);
         nothingStaysOfFormerTexts();
     }
 
@@ -315,53 +303,53 @@ public final class TextTests {
         DreamDuty x = new DreamDuty();
         String plain = "thing a 2;thing b 4;inn i 0 1 1;guest g 1 1 1;guest h 1 1 1;post p;";
         for (int i = 0; i < 6; i++) {
-            Check.put(x, plain);
-            Check.due("read", x.read(), 0);
-            Check.due("owes", x.owes(0, 1, 3), 12);
-            Check.due("gives", x.gives(0, 0), 1);
-            Check.due("posts", x.count(3), 1);
+            put(x, plain);
+            due("read", x.read(), 0);
+            due("owes", x.owes(0, 1, 3), 12);
+            due("gives", x.gives(0, 0), 1);
+            due("posts", x.count(3), 1);
             x.lodge(0, 0);
-            Check.due("posts", x.posts(0), -2);
+            due("posts", x.posts(0), -2);
             int[] dreamt = new int[12];
             for (int night = 0; night < 12; night++) {
                 x.nights(1);
                 dreamt[night] = x.guest(0, 2);
-                Check.due("much", x.guest(0, 3), 1);
-                Check.due("shows", x.shows(0), 50);
+                due("much", x.guest(0, 3), 1);
+                due("shows", x.shows(0), 50);
             }
-            DreamDuty y = Check.of(plain);
+            DreamDuty y = of(plain);
             y.lodge(0, 0);
             for (int night = 0; night < 12; night++) {
                 y.nights(1);
-                Check.due("seed", dreamt[night], y.guest(0, 2));
+                due("seed", dreamt[night], y.guest(0, 2));
             }
-            Check.put(x, "thing a 2;inn j 1 1 1;inn i 1 1 1;gives j a 0;guest h 1 0 1;guest g 1 0 1;twins g h;post q i j;"
+            put(x, "thing a 2;inn j 1 1 1;inn i 1 1 1;gives j a 0;guest h 1 0 1;guest g 1 0 1;twins g h;post q i j;"
                     + "much=7;owes=3;shows=100;seed " + (55 + i) + ";fine 5;");
-            Check.due("read", x.read(), 0);
+            due("read", x.read(), 0);
             x.lodge(0, 1);
             x.lodge(1, 0);
             x.nights(1);
             x.morning();
-            Check.due("seen", x.guest(0, 7), 1);
+            due("seen", x.guest(0, 7), 1);
             // one more good text, so that the next ones stand in place of another one each time
-            Check.due("read", x.read(), 0);
-            Check.put(x, "owes=1+2*((3-4*(5-;");
-            Check.due("read", x.read(), 1);
+            due("read", x.read(), 0);
+            put(x, "owes=1+2*((3-4*(5-;");
+            due("read", x.read(), 1);
         }
-        Check.put(x, plain + "twins g h;owes=(1+2)*3;");
-        Check.due("read", x.read(), 0);
-        Check.due("owes", x.owes(0, 0, 1), 9);
-        Check.due("seen", x.guest(0, 7), 0);
+        put(x, plain + "twins g h;owes=(1+2)*3;");
+        due("read", x.read(), 0);
+        due("owes", x.owes(0, 0, 1), 9);
+        due("seen", x.guest(0, 7), 0);
     }
 
     private static void defaults() {
-        DreamDuty x = Check.of("inn i 1 1 1;thing a 3;inn j 1 1 1;gives j a 4;gives j a 0;thing b 1;gives i b 9;much=3;much=4;fine 3;fine 8;seed 5;seed 6;");
-        Check.due("gives(0,0)", x.gives(0, 0), 1);
-        Check.due("gives(0,1)", x.gives(0, 1), 9);
-        Check.due("gives(1,0)", x.gives(1, 0), 0);
-        Check.due("gives(1,1)", x.gives(1, 1), 1);
-        Check.due("inn(0,4)", x.inn(0, 4), 10);
-        Check.due("inn(1,4)", x.inn(1, 4), 1);
-        Check.due("count(12)", x.count(12), 8);
+        DreamDuty x = of("inn i 1 1 1;thing a 3;inn j 1 1 1;gives j a 4;gives j a 0;thing b 1;gives i b 9;much=3;much=4;fine 3;fine 8;seed 5;seed 6;");
+        due("gives(0,0)", x.gives(0, 0), 1);
+        due("gives(0,1)", x.gives(0, 1), 9);
+        due("gives(1,0)", x.gives(1, 0), 0);
+        due("gives(1,1)", x.gives(1, 1), 1);
+        due("inn(0,4)", x.inn(0, 4), 10);
+        due("inn(1,4)", x.inn(1, 4), 1);
+        due("count(12)", x.count(12), 8);
     }
 }

@@ -1,8 +1,6 @@
 /** A test for each sentence of the document's part IV., what is told, and of promises 26 to 33; and for the 512 calls of an object. */
-public final class ToldBoundaryTests {
-    private static final int[] WILD = Check.WILD;
-
-    private static final String SEVEN = Check.times(7, "thing", " 1") + Check.times(5, "inn", " 0 7 0") + Check.times(6, "guest", " 9 9 9");
+public final class ToldBoundaryTests extends Check {
+    private static final String SEVEN = times(7, "thing", " 1") + times(5, "inn", " 0 7 0") + times(6, "guest", " 9 9 9");
 
     public static void main(String[] args) {
         twentyTold();
@@ -23,14 +21,8 @@ public final class ToldBoundaryTests {
         count();
         countOthers();
         calls512();
-        Check.end();
+        end();
     }
-
-    private static void says(String sentence) { Check.says(sentence); }
-    private static void due(String call, long got, long want) { Check.due(call, got, want); }
-    private static void due(String call, boolean got, boolean want) { Check.due(call, got, want); }
-    private static void due(String call, String got, String want) { Check.due(call, got, want); }
-    private static DreamDuty of(String text) { return Check.of(text); }
 
     // ---- what is told
 
@@ -50,7 +42,7 @@ public final class ToldBoundaryTests {
     private static void known() {
         says("KNOWN by k: the first k.");
         // the inns give a and b, a and c, b and c, all three, none
-        DreamDuty x = of("thing a 1;thing b 1;thing c 1;" + Check.times(5, "inn", " 0 7 0")
+        DreamDuty x = of("thing a 1;thing b 1;thing c 1;" + times(5, "inn", " 0 7 0")
                 + "gives ia c 0;gives ib b 0;gives ic a 0;gives ie a 0;gives ie b 0;gives ie c 0;");
         x.tell(2);
         x.tell(0);
@@ -174,11 +166,11 @@ public final class ToldBoundaryTests {
     private static void tell() {
         says("It is TOLD: its number; NONE, and nothing happens: 20 are there, no such THING.");
         DreamDuty x = of(SEVEN);
-        for (int thing : new int[] {-1, 7, 8, 20}) Check.still(x, () -> due("thing " + thing, x.tell(thing), -1));
-        for (int w : WILD) Check.still(x, () -> due("wild", x.tell(w), -1));
+        for (int thing : new int[] {-1, 7, 8, 20}) still(x, () -> due("thing " + thing, x.tell(thing), -1));
+        for (int w : WILD) still(x, () -> due("wild", x.tell(w), -1));
         for (int n = 0; n < 20; n++) due("tell", x.tell(6 - n % 7), n);
-        Check.still(x, () -> due("20 are there", x.tell(0), -1));
-        Check.still(x, () -> due("20 are there, and no such thing", x.tell(7), -1));
+        still(x, () -> due("20 are there", x.tell(0), -1));
+        still(x, () -> due("20 are there, and no such thing", x.tell(7), -1));
         due("no things", of("inn i 1 1 1;").tell(0), -1);
         due("nothing is told", new DreamDuty().tell(0), -1);
         // nothing but that happens, and it is no thing that can be undone
@@ -285,7 +277,7 @@ public final class ToldBoundaryTests {
 
     // What a slot holds: all but the tape, what can be undone, what is told, and the slots.
     private static String goesOn(DreamDuty x) {
-        return x.count(4) + " " + x.count(5) + " " + x.count(6) + " " + x.count(7) + " " + Check.people(x);
+        return x.count(4) + " " + x.count(5) + " " + x.count(6) + " " + x.count(7) + " " + people(x);
     }
 
     private static void hold() {
@@ -344,8 +336,8 @@ public final class ToldBoundaryTests {
     private static void holdRefused() {
         says("false: no such one.");
         DreamDuty x = busy();
-        for (int slot : new int[] {-1, 3, 4}) Check.still(x, () -> due("slot " + slot, x.hold(slot), false));
-        for (int w : WILD) Check.still(x, () -> due("slot " + w, x.hold(w), false));
+        for (int slot : new int[] {-1, 3, 4}) still(x, () -> due("slot " + slot, x.hold(slot), false));
+        for (int w : WILD) still(x, () -> due("slot " + w, x.hold(w), false));
         due("slots", x.count(11), 0);
         due("a new object", new DreamDuty().hold(0), true);
     }
@@ -395,14 +387,14 @@ public final class ToldBoundaryTests {
         DreamDuty x = busy();
         for (int slot = -1; slot <= 3; slot++) {
             int s = slot;
-            Check.still(x, () -> due("slot " + s, x.restore(s), false));
+            still(x, () -> due("slot " + s, x.restore(s), false));
         }
         x.hold(1);
-        for (int slot : new int[] {-1, 0, 2, 3, 4}) Check.still(x, () -> due("slot " + slot, x.restore(slot), false));
-        for (int w : WILD) Check.still(x, () -> due("slot " + w, x.restore(w), false));
+        for (int slot : new int[] {-1, 0, 2, 3, 4}) still(x, () -> due("slot " + slot, x.restore(slot), false));
+        for (int w : WILD) still(x, () -> due("slot " + w, x.restore(w), false));
         due("what can be undone yet", x.undo(), true);
         due("held", x.restore(1), true);
-        Check.put(x, WORLD);
+        put(x, WORLD);
         x.read();
         for (int slot = 0; slot < 3; slot++) due("nothing held behind a text", x.restore(slot), false);
     }
@@ -411,7 +403,7 @@ public final class ToldBoundaryTests {
         says("0 THINGS, 1 INNS, 2 GUESTS, 3 POSTS, 4 the night, 5 all that was paid at the customs, 6 all that was paid to INNS,"
                 + " 7 GUESTS with DREAMS (bits), 8 bytes on the tape, 9 things that can be undone, 10 TOLD ones,"
                 + " 11 SLOTS that hold something, 12 FINE.");
-        DreamDuty x = of(SEVEN.replace(" 9 9 9", " 9 100 9").replace(" 0 7 0", " 3 7 0") + Check.times(6, "post", "") + "fine 9;owes=10;");
+        DreamDuty x = of(SEVEN.replace(" 9 9 9", " 9 100 9").replace(" 0 7 0", " 3 7 0") + times(6, "post", "") + "fine 9;owes=10;");
         int[] first = {7, 5, 6, 6, 0, 0, 0, 0, 0, 0, 0, 0, 9};
         for (int what = 0; what < 13; what++) due("count " + what, x.count(what), first[what]);
         for (int g = 0; g < 6; g++) x.lodge(g, 4);
@@ -461,7 +453,7 @@ public final class ToldBoundaryTests {
     private static void calls512() {
         says("An object is used for at most 512 calls after it has been made; what later calls answer is free.");
         // as many nights as there can be: what is counted is far from wrapping
-        String world = "thing a 1;inn i 99 7 0;" + Check.times(6, "guest", " 0 0 0") + "fine 9;owes=999;shows=100;";
+        String world = "thing a 1;inn i 99 7 0;" + times(6, "guest", " 0 0 0") + "fine 9;owes=999;shows=100;";
         DreamDuty x = of(world);
         int calls = (world.length() + 19) / 20 + 3;
         for (int g = 0; g < 6; g++) x.lodge(g, 0);

@@ -1,9 +1,7 @@
 /** A test for each sentence of the document's part III., what would be, and of promises 15 to 25. */
-public final class WouldBoundaryTests {
-    private static final int[] WILD = Check.WILD;
-
+public final class WouldBoundaryTests extends Check {
     // Five inns that give one thing each: a dream of as many units as its tariff is.
-    private static final String FIVE = "thing a 1;thing b 2;thing c 3;thing d 4;thing e 5;" + Check.times(5, "inn", " 0 7 0") + alone();
+    private static final String FIVE = "thing a 1;thing b 2;thing c 3;thing d 4;thing e 5;" + times(5, "inn", " 0 7 0") + alone();
 
     public static void main(String[] args) {
         nothingHappens();
@@ -39,12 +37,8 @@ public final class WouldBoundaryTests {
         owes();
         owesNone();
         shows();
-        Check.end();
+        end();
     }
-
-    private static void says(String sentence) { Check.says(sentence); }
-    private static void due(String call, long got, long want) { Check.due(call, got, want); }
-    private static DreamDuty of(String text) { return Check.of(text); }
 
     private static String alone() {
         StringBuilder s = new StringBuilder();
@@ -69,7 +63,7 @@ public final class WouldBoundaryTests {
         DreamDuty x = dreaming("twins ga gb;seed 5;owes=units*degree;post p ia;", new int[] {1, 2, 3, 4, 5, 6}, 0, 1, 2, 3, 4, 4);
         x.deposit(5, false);
         x.tell(0);
-        Check.still(x, () -> {
+        still(x, () -> {
             for (int g = -1; g < 7; g++) {
                 x.owes(g, 0, 3);
                 x.mean(g, 1, false);
@@ -162,7 +156,7 @@ public final class WouldBoundaryTests {
             due(w[0] + " and " + w[1], x.mean(0, 0, false), w[2]);
             due(w[0] + " and " + w[1], x.mean(0, 0, true), w[3]);
         }
-        StringBuilder s = new StringBuilder(Check.times(7, "thing", " 99") + "inn i 0 1 0;inn j 0 1 0;guest g 0 0 0;gives j ta 8;");
+        StringBuilder s = new StringBuilder(times(7, "thing", " 99") + "inn i 0 1 0;inn j 0 1 0;guest g 0 0 0;gives j ta 8;");
         for (char t = 'a'; t < 'h'; t++) s.append("gives i t").append(t).append(" 9;");
         DreamDuty x = of(s + "owes=999;");
         due("999 of 63 by 63", x.mean(0, 0, false), 999);
@@ -224,7 +218,7 @@ public final class WouldBoundaryTests {
 
     private static void sureNone() {
         says("SURE; -2: no INN gives it; NONE: no such THING.");
-        DreamDuty x = of(Check.times(7, "thing", " 1") + "inn i 0 1 0;inn j 0 1 0;gives i tb 0;gives j tb 0;gives i tg 0;");
+        DreamDuty x = of(times(7, "thing", " 1") + "inn i 0 1 0;inn j 0 1 0;gives i tb 0;gives j tb 0;gives i tg 0;");
         due("no inn", x.sure(1), -2);
         due("one inn", x.sure(6), 1);
         due("no inns", of("thing a 1;").sure(0), -2);
@@ -243,7 +237,7 @@ public final class WouldBoundaryTests {
 
     private static void lodgingBeds() {
         says("LODGING for a set of GUESTS, 4 at most: each at some INN, no INN over its BEDS (those lodged who are not of the set count),");
-        DreamDuty x = of("thing a 0;inn i 1 2 0;inn j 5 1 0;inn k 9 3 0;" + Check.times(6, "guest", " 0 0 0"));
+        DreamDuty x = of("thing a 0;inn i 1 2 0;inn j 5 1 0;inn k 9 3 0;" + times(6, "guest", " 0 0 0"));
         at("one", x, 32, 1, 0);
         at("two beds", x, 3, 2, 0, 0);
         at("a third", x, 7, 7, 0, 0, 1);
@@ -276,11 +270,11 @@ public final class WouldBoundaryTests {
         at("two", x, 5, 7 + 8, 1, 0);
         at("two", x, 6, 10, 0, 1);
         // for nothing, which is least, whatever comes behind it
-        x = of("thing a 1;inn i 0 2 0;inn j 1 7 0;" + Check.times(6, "guest", " 0 0 0") + "owes=0;");
+        x = of("thing a 1;inn i 0 2 0;inn j 1 7 0;" + times(6, "guest", " 0 0 0") + "owes=0;");
         at("for nothing", x, 1, 0, 0);
         at("for nothing, both", x, 3, 0, 0, 0);
         at("for next to nothing", x, 7, 1, 0, 0, 1);
-        x = of("thing a 1;inn i 1 7 0;inn j 0 2 0;" + Check.times(6, "guest", " 0 0 0") + "owes=0;");
+        x = of("thing a 1;inn i 1 7 0;inn j 0 2 0;" + times(6, "guest", " 0 0 0") + "owes=0;");
         at("for nothing, at the last", x, 3, 0, 1, 1);
         // in the mean, not at the most
         x = of("thing a 1;thing b 9;inn i 0 1 0;inn j 4 1 0;gives i a 5;gives j b 0;guest g 0 0 0;owes=tariff;");
@@ -291,22 +285,22 @@ public final class WouldBoundaryTests {
         x = of("thing a 1;" + sixMore("i", 9, 53) + sixMore("j", 8, 47) + "guest y 0 0 0;guest z 0 0 0;guest x 0 0 0;guest w 0 0 0;owes=if which<1 then 999 else 0;");
         at("four times 9/62 of 999", x, 15, 580, 0, 0, 0, 0);
         // five inns, four guests: the last way of all, and the dearest that can be
-        x = of("thing a 1;inn i 99 7 0;inn j 98 7 0;inn k 97 7 0;inn l 96 7 0;inn m 95 7 0;" + Check.times(6, "guest", " 0 0 0") + "owes=999;");
+        x = of("thing a 1;inn i 99 7 0;inn j 98 7 0;inn k 97 7 0;inn l 96 7 0;inn m 95 7 0;" + times(6, "guest", " 0 0 0") + "owes=999;");
         at("the last inn for all", x, 15, 4 * (95 + 999), 4, 4, 4, 4);
         at("the last inn for all", x, 60, 4 * (95 + 999), 4, 4, 4, 4);
-        StringBuilder nines = new StringBuilder(Check.times(7, "thing", " 99") + Check.times(5, "inn", " 99 7 0") + Check.times(6, "guest", " 0 0 0"));
+        StringBuilder nines = new StringBuilder(times(7, "thing", " 99") + times(5, "inn", " 99 7 0") + times(6, "guest", " 0 0 0"));
         for (char i = 'a'; i < 'f'; i++) for (char t = 'a'; t < 'h'; t++) nines.append("gives i").append(i).append(" t").append(t).append(" 9;");
         at("the greatest weights", of(nines + "owes=999;"), 15, 4 * (99 + 999), 0, 0, 0, 0);
         // of 63, 62, 61, 59 and 53 each: what divides all of them is great
         String uneven = nines + "gives ib ta 8;gives ic ta 7;gives id ta 5;gives ie tb 8;gives ie ta 0;owes=if which<1 then 999 else 998;";
         at("uneven weights", of(uneven), 15, 4 * (99 + 998), 4, 4, 4, 4);
-        x = of("thing a 1;inn i 99 1 0;inn j 98 1 0;inn k 97 1 0;inn l 96 1 0;inn m 95 1 0;" + Check.times(6, "guest", " 0 0 0") + "owes=0;");
+        x = of("thing a 1;inn i 99 1 0;inn j 98 1 0;inn k 97 1 0;inn l 96 1 0;inn m 95 1 0;" + times(6, "guest", " 0 0 0") + "owes=0;");
         at("each another one", x, 15, 98 + 97 + 96 + 95, 1, 2, 3, 4);
     }
 
     private static void lodgingAlike() {
         says("of alike ones the first by the first GUEST's INN, then the next one's:");
-        String guests = Check.times(6, "guest", " 0 0 0");
+        String guests = times(6, "guest", " 0 0 0");
         at("all alike", of("inn i 3 7 0;inn j 3 7 0;inn k 3 7 0;" + guests), 15, 12, 0, 0, 0, 0);
         at("a bed each", of("inn i 3 1 0;inn j 3 1 0;inn k 3 1 0;inn l 3 1 0;" + guests), 54, 12, 0, 1, 2, 3);
         at("the first first", of("inn i 3 2 0;inn j 3 1 0;inn k 3 1 0;" + guests), 15, 12, 0, 0, 1, 2);
@@ -316,7 +310,7 @@ public final class WouldBoundaryTests {
 
     private static void lodgingRoundedDown() {
         says("the sum, rounded down.");
-        String world = "thing a 1;thing b 1;thing c 1;inn i 0 7 0;" + Check.times(6, "guest", " 0 0 0");
+        String world = "thing a 1;thing b 1;thing c 1;inn i 0 7 0;" + times(6, "guest", " 0 0 0");
         int[] sets = {1, 3, 7, 15};
         String third = "owes=if which<1 then 1 else 0;";
         String twoThirds = "owes=if which<2 then 1 else 0;";
@@ -332,7 +326,7 @@ public final class WouldBoundaryTests {
 
     private static void lodgingSets() {
         says("LODGING (a set of 1 to 4 GUESTS): the sum;");
-        DreamDuty x = of("thing a 0;inn i 1 7 0;" + Check.times(6, "guest", " 0 0 0"));
+        DreamDuty x = of("thing a 0;inn i 1 7 0;" + times(6, "guest", " 0 0 0"));
         for (int set = 1; set < 64; set++) due("set " + set, x.lodging(set), Integer.bitCount(set) <= 4 ? Integer.bitCount(set) : -1);
         says("not so many BEDS; NONE: no such ones.");
         for (int set : new int[] {0, -1, 64, 65, 128, 31, 63, 95, 1 << 30}) due("set " + set, x.lodging(set), -1);
@@ -347,7 +341,7 @@ public final class WouldBoundaryTests {
 
     private static void lodgingTooFewBeds() {
         says("-2: not so many BEDS;");
-        DreamDuty x = of("thing a 0;inn i 1 2 0;inn j 1 1 0;" + Check.times(6, "guest", " 0 0 0"));
+        DreamDuty x = of("thing a 0;inn i 1 2 0;inn j 1 1 0;" + times(6, "guest", " 0 0 0"));
         due("three beds", x.lodging(7), 3);
         due("four guests", x.lodging(15), -2);
         x.lodge(5, 1);
@@ -363,7 +357,7 @@ public final class WouldBoundaryTests {
 
     private static void lodgingAt() {
         says("The INN of the i-th GUEST of the set by it; -2 likewise; NONE (looked at first): no such ones, not so many.");
-        DreamDuty x = of("thing a 0;inn i 1 1 0;inn j 2 1 0;" + Check.times(6, "guest", " 0 0 0"));
+        DreamDuty x = of("thing a 0;inn i 1 1 0;inn j 2 1 0;" + times(6, "guest", " 0 0 0"));
         due("the first", x.lodgingAt(40, 0), 0);
         due("the second", x.lodgingAt(40, 1), 1);
         for (int i : new int[] {-1, 2, 3, 4, 6}) due("the " + i, x.lodgingAt(40, i), -1);
@@ -469,7 +463,7 @@ public final class WouldBoundaryTests {
     }
 
     private static DreamDuty owing(int dreamers, String more) {
-        DreamDuty x = of("thing a 1;inn i 0 7 0;" + Check.times(6, "guest", " 0 0 0") + more);
+        DreamDuty x = of("thing a 1;inn i 0 7 0;" + times(6, "guest", " 0 0 0") + more);
         for (int g = 0; g < 6; g++) if ((dreamers >> g & 1) == 1) x.lodge(g, 0);
         x.nights(1);
         return x;
@@ -541,7 +535,7 @@ public final class WouldBoundaryTests {
 
     private static void postsFewest() {
         says("MAN: the fewest POSTS that watch all INNS where somebody is lodged; of alike ones the least bits.");
-        DreamDuty x = of(Check.times(5, "inn", " 0 1 0") + Check.times(6, "guest", " 0 0 0") + "post p ia ib;post q ib ic;post r ic id ie;post s ia;post t ie id;post u ib id;");
+        DreamDuty x = of(times(5, "inn", " 0 1 0") + times(6, "guest", " 0 0 0") + "post p ia ib;post q ib ic;post r ic id ie;post s ia;post t ie id;post u ib id;");
         int[][] steps = {{0, 0, 1, 1}, {1, 1, 1, 1}, {2, 2, 2, 3}, {3, 3, 2, 5}, {4, 4, 2, 5}};
         due("nobody", x.posts(0), 0);
         due("nobody", x.posts(1), 0);
@@ -557,13 +551,13 @@ public final class WouldBoundaryTests {
         due("one", x.posts(0), 1);
         due("one", x.posts(1), 4);
         // one that has more bits is better than two that have less
-        DreamDuty z = of(Check.times(2, "inn", " 0 1 0") + Check.times(2, "guest", " 0 0 0") + "post p ia;post q ib;post r ia ib;post s ia ib;");
+        DreamDuty z = of(times(2, "inn", " 0 1 0") + times(2, "guest", " 0 0 0") + "post p ia;post q ib;post r ia ib;post s ia ib;");
         z.lodge(0, 0);
         z.lodge(1, 1);
         due("fewest", z.posts(0), 1);
         due("fewest, of those least bits", z.posts(1), 4);
         // all six but one
-        DreamDuty y = of(Check.times(5, "inn", " 0 7 0") + Check.times(6, "guest", " 0 0 0") + "post p;post q ib;post r ia;post s ic;post t id;post u ie;");
+        DreamDuty y = of(times(5, "inn", " 0 7 0") + times(6, "guest", " 0 0 0") + "post p;post q ib;post r ia;post s ic;post t id;post u ie;");
         for (int g = 0; g < 5; g++) y.lodge(g, g);
         due("five", y.posts(0), 5);
         due("five", y.posts(1), 62);
@@ -727,7 +721,7 @@ public final class WouldBoundaryTests {
 
     private static void owesNone() {
         says("TWINS not looked at; NONE: no such ones.");
-        DreamDuty x = of(Check.times(7, "thing", " 1") + Check.times(6, "guest", " 0 0 0"));
+        DreamDuty x = of(times(7, "thing", " 1") + times(6, "guest", " 0 0 0"));
         due("the last ones", x.owes(5, 6, 99), 99);
         for (int g : new int[] {-1, 6, 7}) due("guest " + g, x.owes(g, 0, 1), -1);
         for (int t : new int[] {-1, 7, 8}) due("thing " + t, x.owes(0, t, 1), -1);
